@@ -14,6 +14,8 @@ public final class PurgeTest {
         idleTicks();
         schedulesAreKept();
         startsAnew();
+        channelsStartAnew();
+        ticksAfterTheLastAction();
         Check.end();
     }
 
@@ -271,5 +273,53 @@ public final class PurgeTest {
             Check.due("steps of 1", x.purged(1, 7, 0), 0);
             Check.due("state of 1", x.purged(1, 4, 0), 0);
         }
+    }
+
+    /** Messages that wait and are there to be taken, and a written board, don't come into the next purge. */
+    private static void channelsStartAnew() {
+        SplitKernel x = new SplitKernel(2);
+        x.flow(0, 1, true);
+        x.channel(0, 1, false, 2);
+        x.channel(0, 1, true, 1);
+        Check.program(x, 0, Check.set(1, 1), Check.op(13, 1, 0, 0), Check.op(14, 0, 0, 1), Check.op(14, 0, 0, 1), Check.op(16, 1, 0, 0),
+                Check.op(9, 0, 2, 0));
+        Check.program(x, 1, Check.op(17, 1, 0, 0), Check.op(18, 7, 0, 0), Check.op(22, 2, 1, 0), Check.op(18, 2, 0, 0),
+                Check.op(15, 0, 0, 0), Check.op(18, 7, 0, 0), Check.op(9, 0, 0, 0));
+        x.slot(0, 1, 7);
+        x.slot(0, 0, 6);
+        x.seal();
+        x.tick(13 + 7 + 6);
+        Check.due("messages to take", x.at(0, 4), 1);
+        Check.due("messages that wait", x.at(0, 5), 2);
+        for (int round = 0; round < 3; round++) {
+            Check.due("undisturbed(1)", x.undisturbed(1), 1);
+            Check.due("purge(1)", x.purge(1), 26);
+            int[] outputs = {-1, 0, -1, 2, 1, 1};
+            for (int i = 0; i < outputs.length; i++) {
+                Check.due("output " + i, x.output(1, i), outputs[i]);
+                Check.due("purged output " + i, x.purged(1, 2, i), outputs[i]);
+            }
+        }
+    }
+
+    /** As many ticks in all: a slot that begins behind the last action still brings the messages. */
+    private static void ticksAfterTheLastAction() {
+        SplitKernel x = new SplitKernel(2);
+        x.flow(0, 1, true);
+        x.channel(0, 1, false, 1);
+        Check.program(x, 0, Check.set(1, 1), Check.op(14, 0, 0, 1), Check.op(0, 0, 0, 0));
+        Check.program(x, 1, Check.op(0, 0, 0, 0));
+        x.slot(0, 1, 1);
+        x.slot(0, 0, 5);
+        x.seal();
+        x.tick(6);
+        Check.due("messages that wait", x.at(0, 5), 1);
+        Check.due("undisturbed(1) while it waits", x.undisturbed(1), 1);
+        Check.due("tick(3)", x.tick(3), 0);
+        Check.due("messages to take", x.at(0, 4), 1);
+        Check.due("undisturbed(1) when it is there", x.undisturbed(1), 1);
+        x.tick(6);
+        Check.due("messages lost", x.at(0, 6), 1);
+        Check.due("undisturbed(1) when it is lost", x.undisturbed(1), 1);
     }
 }

@@ -63,6 +63,10 @@ public final class SetupTest {
         Check.due("flow(0, 1, true) with a channel", x.flow(0, 1, true), true);
         Check.due("flow(1, 0, false) beside the channel", x.flow(1, 0, false), true);
         Check.due("of(0, 7) still", x.of(0, 7), 1);
+        Check.due("flow(2, 1, true)", x.flow(2, 1, true), true);
+        Check.due("flow(2, 1, false), to where the channel goes", x.flow(2, 1, false), true);
+        Check.due("flow(0, 2, false), from where the channel comes", x.flow(0, 2, false), true);
+        Check.due("of(0, 7) at last", x.of(0, 7), 0);
     }
 
     private static void channel() {
