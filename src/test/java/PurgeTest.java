@@ -227,7 +227,8 @@ public final class PurgeTest {
         x.flow(1, 0, true);
         x.flow(1, 2, true);
         Check.program(x, 0, Check.op(20, 0, 0, 0), Check.op(18, 0, 0, 0), Check.op(9, 0, 0, 0));
-        Check.program(x, 1, Check.op(23, 1, 0, 0), Check.op(9, 0, 2, 0), Check.op(23, 0, 0, 0), Check.op(9, 0, 0, 0));
+        Check.program(x, 1, Check.op(9, 0, 1, 0), Check.op(9, 0, 2, 0), Check.op(23, 1, 0, 0), Check.op(9, 0, 4, 0),
+                Check.op(23, 0, 0, 0), Check.op(9, 0, 2, 0));
         Check.program(x, 2, Check.op(9, 0, 0, 0));
         x.slot(0, 0, 2);
         x.slot(0, 1, 2);
@@ -235,7 +236,7 @@ public final class PurgeTest {
         x.slot(1, 1, 2);
         x.slot(1, 0, 3);
         x.seal();
-        x.tick(100);
+        x.tick(104);
         for (int d = 0; d < 3; d++) {
             Check.due("undisturbed(" + d + ")", x.undisturbed(d), 1);
         }
@@ -243,7 +244,16 @@ public final class PurgeTest {
         Check.due("steps of 0", x.purged(0, 7, 0), x.of(0, 5));
         Check.due("steps of 2", x.purged(2, 7, 0), 0);
         Check.due("schedule in truth", x.told(4), 0);
-        Check.due("time in truth", x.told(0), 100);
+        Check.due("time in truth", x.told(0), 104);
+        x.tick(6);
+        Check.due("schedule later", x.told(4), 1);
+        for (int round = 0; round < 2; round++) {
+            Check.due("undisturbed(0) later", x.undisturbed(0), 1);
+            x.purge(0);
+            for (int i = 0; i < x.of(0, 3); i++) {
+                Check.due("output " + i, x.purged(0, 2, i), x.output(0, i));
+            }
+        }
     }
 
     /** The kernel that is used again for the next purge has nothing left of the one before. */
