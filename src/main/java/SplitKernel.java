@@ -37,8 +37,6 @@ public final class SplitKernel {
         plan = new Plan(Math.max(FEWEST_DOMAINS, Math.min(MOST_DOMAINS, domains)));
         machine = new Machine(plan);
         actions = new Actions();
-        latest = null;
-        trial = null;
     }
 
     public boolean flow(int a, int b, boolean may) {
@@ -289,7 +287,6 @@ public final class SplitKernel {
 
         Row(int room) {
             items = new int[Math.max(1, room)];
-            size = 0;
         }
 
         void add(int v) {
@@ -338,8 +335,6 @@ public final class SplitKernel {
 
         Messages(int room) {
             records = new int[RECORD * Math.max(1, room)];
-            count = 0;
-            next = 0;
         }
 
         int left() {
@@ -432,14 +427,12 @@ public final class SplitKernel {
                 programs[d] = new Row(8);
             }
             links = new Link[MOST_CHANNELS];
-            linkCount = 0;
             slotDomains = new Row[SCHEDULES];
             slotTicks = new Row[SCHEDULES];
             for (int s = 0; s < SCHEDULES; s++) {
                 slotDomains[s] = new Row(4);
                 slotTicks[s] = new Row(4);
             }
-            isSealed = false;
         }
 
         boolean hasDomain(int d) {
@@ -479,11 +472,6 @@ public final class SplitKernel {
 
         Clock(Plan plan) {
             this.plan = plan;
-            time = 0;
-            schedule = 0;
-            number = 0;
-            left = 0;
-            asked = 0;
         }
 
         void start() {
@@ -533,11 +521,7 @@ public final class SplitKernel {
             int room = link.isBoard ? 1 : link.size;
             toTake = new Messages(room);
             waiting = new Messages(room);
-            sentInSlot = 0;
-            lost = 0;
             shown = new int[link.size];
-            writes = 0;
-            writtenAt = 0;
         }
 
         void reset() {
@@ -592,11 +576,6 @@ public final class SplitKernel {
             cells = new int[CELLS];
             inputs = new Row(MOST_INPUTS);
             outputs = new Row(8);
-            place = 0;
-            state = GOES_ON;
-            fails = 0;
-            steps = 0;
-            ticks = 0;
         }
 
         void reset() {
@@ -774,7 +753,6 @@ public final class SplitKernel {
                 channels[i] = new Channel(plan.links[i]);
             }
             clock = new Clock(plan);
-            givenAway = false;
         }
 
         void reset() {
@@ -879,28 +857,20 @@ public final class SplitKernel {
             }
         }
 
-        /** Channel i if it is of the kind and the domain's to send or write on, else null. */
-        Channel channelFrom(int d, int i, boolean isBoard) {
-            if (i >= plan.linkCount || channels[i].link.isBoard != isBoard || channels[i].link.from != d) {
-                return null;
-            }
-            return channels[i];
-        }
-
-        /** Channel i if it is of the kind and the domain's to take or see, else null. */
-        Channel channelTo(int d, int i, boolean isBoard) {
-            if (i >= plan.linkCount || channels[i].link.isBoard != isBoard || channels[i].link.to != d) {
-                return null;
-            }
-            return channels[i];
+        /** Channel i if there is one and it is of the kind, else null. */
+        Channel channelOfKind(int i, boolean isBoard) {
+            return i < plan.linkCount && plan.links[i].isBoard == isBoard ? channels[i] : null;
         }
 
         boolean send(int d, int instruction) {
             Domain me = domains[d];
-            Channel channel = channelFrom(d, partA(instruction), false);
+            Channel channel = channelOfKind(partA(instruction), false);
+            if (channel == null || channel.link.from != d) {
+                return false;
+            }
             int first = me.read(partB(instruction));
             int words = me.read(partC(instruction));
-            if (channel == null || words < 1 || words > MOST_WORDS || !Domain.hasCells(first, words)) {
+            if (words < 1 || words > MOST_WORDS || !Domain.hasCells(first, words)) {
                 return false;
             }
             if (channel.sentInSlot == channel.link.size) {
@@ -915,8 +885,8 @@ public final class SplitKernel {
 
         boolean take(int d, int instruction) {
             Domain me = domains[d];
-            Channel channel = channelTo(d, partA(instruction), false);
-            if (channel == null) {
+            Channel channel = channelOfKind(partA(instruction), false);
+            if (channel == null || channel.link.to != d) {
                 return false;
             }
             if (channel.toTake.left() == 0) {
@@ -936,9 +906,9 @@ public final class SplitKernel {
 
         boolean writeBoard(int d, int instruction) {
             Domain me = domains[d];
-            Channel channel = channelFrom(d, partA(instruction), true);
+            Channel channel = channelOfKind(partA(instruction), true);
             int first = me.read(partB(instruction));
-            if (channel == null || !Domain.hasCells(first, channel.link.size)) {
+            if (channel == null || channel.link.from != d || !Domain.hasCells(first, channel.link.size)) {
                 return false;
             }
             System.arraycopy(me.cells, first, channel.shown, 0, channel.link.size);
@@ -949,9 +919,9 @@ public final class SplitKernel {
 
         boolean seeBoard(int d, int instruction) {
             Domain me = domains[d];
-            Channel channel = channelTo(d, partA(instruction), true);
+            Channel channel = channelOfKind(partA(instruction), true);
             int first = me.read(partB(instruction));
-            if (channel == null || !Domain.hasCells(first, channel.link.size)) {
+            if (channel == null || channel.link.to != d || !Domain.hasCells(first, channel.link.size)) {
                 return false;
             }
             System.arraycopy(channel.shown, 0, me.cells, first, channel.link.size);
@@ -1028,8 +998,6 @@ public final class SplitKernel {
             this.plan = plan;
             machine = new Machine(plan);
             isKept = new boolean[32];
-            actionCount = 0;
-            keptCount = 0;
         }
 
         void choose(Actions actions, int domain) {
