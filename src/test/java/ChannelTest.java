@@ -15,16 +15,6 @@ public final class ChannelTest {
         Check.end();
     }
 
-    /** Domain 0 may flow to domain 1 by the channel 0; nothing fails for good. */
-    private static SplitKernel pair(boolean board, int size) {
-        SplitKernel x = new SplitKernel(2);
-        x.flow(0, 1, true);
-        x.channel(0, 1, board, size);
-        x.onFail(0, 2);
-        x.onFail(1, 2);
-        return x;
-    }
-
     private static void dueAt(SplitKernel x, String when, int toTake, int waiting, int lost) {
         Check.due("messages to take " + when, x.at(0, 4), toTake);
         Check.due("messages that wait " + when, x.at(0, 5), waiting);
@@ -32,7 +22,7 @@ public final class ChannelTest {
     }
 
     private static void messagesWait() {
-        SplitKernel x = pair(false, 2);
+        SplitKernel x = Check.pair(false, 2);
         Check.program(x, 0, Check.set(1, 1), Check.set(2, 70), Check.op(13, 2, 0, 0), Check.op(14, 0, 0, 1),
                 Check.set(2, 80), Check.op(13, 2, 0, 0), Check.op(14, 0, 0, 1), Check.op(9, 0, 7, 0));
         Check.program(x, 1, Check.op(15, 0, 0, 0), Check.op(15, 0, 0, 0), Check.op(15, 0, 0, 0));
@@ -60,7 +50,7 @@ public final class ChannelTest {
 
     private static void sendsAreCounted() {
         for (int size = 1; size <= 4; size++) {
-            SplitKernel x = pair(false, size);
+            SplitKernel x = Check.pair(false, size);
             x.channel(0, 1, false, 1);
             Check.program(x, 0, Check.set(1, 1), Check.op(14, 0, 0, 1), Check.op(9, 0, 1, 0));
             x.slot(0, 0, 15);
@@ -83,7 +73,7 @@ public final class ChannelTest {
     }
 
     private static void messagesAreLost() {
-        SplitKernel x = pair(false, 4);
+        SplitKernel x = Check.pair(false, 4);
         Check.program(x, 0, Check.set(1, 4), Check.op(14, 0, 0, 1), Check.op(14, 0, 0, 1), Check.op(14, 0, 0, 1), Check.op(0, 0, 0, 0));
         Check.program(x, 1, Check.op(15, 0, 0, 0), Check.op(0, 0, 0, 0));
         x.slot(0, 0, 5);
@@ -101,7 +91,7 @@ public final class ChannelTest {
     }
 
     private static void handedOverWithTheTick() {
-        SplitKernel x = pair(false, 4);
+        SplitKernel x = Check.pair(false, 4);
         Check.program(x, 0, Check.set(1, 1), Check.op(14, 0, 0, 1));
         Check.program(x, 1, Check.op(0, 0, 0, 0));
         x.slot(0, 0, 2);
@@ -119,7 +109,7 @@ public final class ChannelTest {
 
     private static void lengths() {
         for (int n = 1; n <= 4; n++) {
-            SplitKernel x = pair(false, 1);
+            SplitKernel x = Check.pair(false, 1);
             Check.program(x, 0, Check.set(1, 32 - n), Check.set(2, n), Check.set(3, 27));
             for (int k = 27; k < 32; k++) {
                 Check.program(x, 0, Check.set(4, 10 * k), Check.set(3, k), Check.op(13, 4, 3, 0));
@@ -169,7 +159,7 @@ public final class ChannelTest {
     }
 
     private static int failsOfSend(int channel, int first, int words) {
-        SplitKernel x = pair(false, 1);
+        SplitKernel x = Check.pair(false, 1);
         x.flow(1, 0, true);
         x.channel(0, 1, true, 1);
         x.channel(1, 0, false, 1);
@@ -193,7 +183,7 @@ public final class ChannelTest {
         Check.due("send on no channel", failsOfSend(3, 0, 1), 1);
         Check.due("send on no channel", failsOfSend(12, 0, 1), 1);
         Check.due("send on no channel", failsOfSend(255, 0, 1), 1);
-        SplitKernel x = pair(false, 1);
+        SplitKernel x = Check.pair(false, 1);
         Check.program(x, 0, Check.set(2, 1), Check.op(14, 0, 1, 2), Check.set(1, 32), Check.op(14, 0, 1, 2),
                 Check.op(14, 0, 2, 1), Check.op(14, 0, 2, 2), Check.op(0, 0, 0, 0));
         x.slot(0, 0, 20);
@@ -204,7 +194,7 @@ public final class ChannelTest {
     }
 
     private static int failsOfTake(int channel, int domain) {
-        SplitKernel x = pair(false, 1);
+        SplitKernel x = Check.pair(false, 1);
         x.channel(0, 1, true, 1);
         Check.program(x, domain, Check.set(7, 9), Check.op(15, channel, 0, 0), Check.op(0, 0, 0, 0));
         return failsOf(x, domain);
@@ -216,7 +206,7 @@ public final class ChannelTest {
         Check.due("take of a board", failsOfTake(1, 1), 1);
         Check.due("take of no channel", failsOfTake(2, 1), 1);
         Check.due("take of no channel", failsOfTake(255, 1), 1);
-        SplitKernel x = pair(false, 1);
+        SplitKernel x = Check.pair(false, 1);
         Check.program(x, 0, Check.set(2, 2), Check.set(3, 5), Check.op(13, 3, 0, 0), Check.op(14, 0, 1, 2), Check.op(0, 0, 0, 0));
         Check.program(x, 1, Check.set(1, 31), Check.op(15, 0, 1, 0), Check.set(1, -1), Check.op(15, 0, 1, 0), Check.set(1, 30),
                 Check.op(15, 0, 1, 0), Check.set(1, 32), Check.op(15, 0, 1, 0));
@@ -240,7 +230,7 @@ public final class ChannelTest {
 
     private static void boards() {
         for (int size = 1; size <= 4; size++) {
-            SplitKernel x = pair(true, size);
+            SplitKernel x = Check.pair(true, size);
             Check.program(x, 0, Check.set(1, 32 - size));
             for (int i = 0; i < 4; i++) {
                 Check.program(x, 0, Check.set(2, 28 + i), Check.op(13, 2, 2, 0));
@@ -278,7 +268,7 @@ public final class ChannelTest {
     }
 
     private static int failsOfBoard(int operation, int domain, int channel, int first) {
-        SplitKernel x = pair(true, 3);
+        SplitKernel x = Check.pair(true, 3);
         x.channel(0, 1, false, 1);
         Check.program(x, domain, Check.set(1, first), Check.set(7, 9), Check.op(operation, channel, 1, 0), Check.op(0, 0, 0, 0));
         int fails = failsOf(x, domain);
@@ -303,7 +293,7 @@ public final class ChannelTest {
     }
 
     private static void ofNone() {
-        SplitKernel x = pair(true, 2);
+        SplitKernel x = Check.pair(true, 2);
         Check.due("at(0, 0)", x.at(0, 0), 0);
         Check.due("at(0, 1)", x.at(0, 1), 1);
         Check.due("at(0, 2)", x.at(0, 2), 1);

@@ -1,14 +1,20 @@
 /** What the tests share: counting wrong answers, writing instructions, making kernels. */
 final class Check {
     private static int wrong = 0;
+    private static String about = "";
 
     private Check() {
+    }
+
+    /** What the checks from here on are about; a wrong answer is printed with it. */
+    static void about(String words) {
+        about = words + ": ";
     }
 
     static void due(String call, long got, long want) {
         if (got != want) {
             wrong++;
-            System.out.println(call + " answered " + got + ", due is " + want);
+            System.out.println(about + call + " answered " + got + ", due is " + want);
         }
     }
 
@@ -50,6 +56,16 @@ final class Check {
         x.onFail(0, how);
         x.slot(0, 0, 20);
         x.seal();
+        return x;
+    }
+
+    /** Domain 0 may flow to domain 1 by the channel 0; nothing fails for good; no programs, no slots, not sealed. */
+    static SplitKernel pair(boolean board, int size) {
+        SplitKernel x = new SplitKernel(2);
+        x.flow(0, 1, true);
+        x.channel(0, 1, board, size);
+        x.onFail(0, 2);
+        x.onFail(1, 2);
         return x;
     }
 }
