@@ -352,6 +352,7 @@ final class PurgeBoundaries {
             Check.due("outputs of 1", x.purged(1, 5, 0), 0);
             Check.due("fails of 1", x.purged(1, 6, 0), 0);
         }
+        startsAnew();
         Sentence.of("Terms", "in their order");
         x = Check.alone(Check.op(19, 1, 0, 0), Check.op(18, 1, 0, 0), Check.op(9, 0, 0, 0));
         for (int i = 1; i <= 8; i++) {
@@ -366,6 +367,31 @@ final class PurgeBoundaries {
         }
         eachAtItsTime();
         asManyTicks();
+    }
+
+    /** Nothing of the purge before: not what a board showed, nor who had stopped, nor a schedule that was asked for. */
+    private static void startsAnew() {
+        SplitKernel x = Check.pair(true, 1);
+        Check.program(x, 0, Check.set(1, 5), Check.op(13, 1, 0, 0), Check.op(16, 0, 0, 0), Check.op(23, 1, 0, 0), Check.op(0, 0, 0, 0));
+        Check.program(x, 1, Check.op(17, 0, 0, 0), Check.op(18, 7, 0, 0), Check.op(12, 1, 0, 0), Check.op(18, 1, 0, 0), Check.op(0, 0, 0, 0));
+        x.slot(0, 1, 4);
+        x.slot(0, 0, 3);
+        x.slot(1, 0, 2);
+        x.slot(1, 1, 2);
+        x.seal();
+        Check.due("tick(20)", x.tick(20), 10);
+        for (int i = 0; i < 3; i++) {
+            Check.due("purge(1)", x.purge(1), 10);
+            Check.due("state of 1", x.purged(1, 4, 0), 1);
+            Check.due("age that 1 saw at first", x.purged(1, 2, 0), -1);
+            Check.due("int that 1 saw at first", x.purged(1, 2, 1), 0);
+            Check.due("place of 0", x.purged(0, 3, 0), 4);
+            Check.due("undisturbed(1)", x.undisturbed(1), 1);
+            Check.due("purge(0)", x.purge(0), 5);
+            Check.due("state of 1, that made no step", x.purged(1, 4, 0), 0);
+            Check.due("steps of 1", x.purged(1, 7, 0), 0);
+            Check.due("undisturbed(0)", x.undisturbed(0), 1);
+        }
     }
 
     private static void eachAtItsTime() {

@@ -48,6 +48,10 @@ final class UndisturbedBoundaries {
         x.seal();
         Check.due("undisturbed(0) without actions", x.undisturbed(0), 1);
         Check.due("undisturbed(1) without actions", x.undisturbed(1), 1);
+        for (int i = 0; i < 8; i++) {
+            x.input(1, i);
+        }
+        Check.due("undisturbed(1) when 8 inputs wait", x.undisturbed(1), 1);
     }
 
     private static void latestStays() {
