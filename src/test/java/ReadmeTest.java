@@ -1,25 +1,74 @@
-/** The example of README.md answers what is written beside it. */
+import java.lang.reflect.Method;
+import java.lang.reflect.Modifier;
+import java.net.URL;
+import java.net.URLClassLoader;
+import java.nio.file.Files;
+import java.nio.file.Path;
+import java.util.regex.Matcher;
+import java.util.regex.Pattern;
+import javax.tools.ToolProvider;
+
+/** The example of README.md answers what is written beside it, and README.md names every call. */
 public final class ReadmeTest {
-    public static void main(String[] args) {
-        SplitKernel k = new SplitKernel(2);
-        k.flow(0, 1, true);
-        int queue = k.channel(0, 1, false, 1);
-        k.code(0, 19);
-        k.code(0, 13 | 2 << 16);
-        k.code(0, 1 | 1 << 8 | 1 << 16);
-        k.code(0, 14 | queue << 8 | 2 << 16 | 1 << 24);
-        k.code(0, 0);
-        k.code(1, 15 | queue << 8);
-        k.code(1, 12 | 1 << 8);
-        k.code(1, 18 | 1 << 8);
-        k.slot(0, 0, 5);
-        k.slot(0, 1, 3);
-        k.seal();
-        k.input(0, 77);
-        Check.due("tick(8)", k.tick(8), 8);
-        Check.due("output(1, 0)", k.output(1, 0), 77);
-        Check.due("purge(0)", k.purge(0), 6);
-        Check.due("undisturbed(0)", k.undisturbed(0), 1);
+    /** A comment that begins with a number tells the answer of its line. */
+    private static final Pattern ANSWERED = Pattern.compile("(k\\..*);\\s*// (-?\\d+)\\b.*");
+
+    private static int answered = 0;
+
+    public static void main(String[] args) throws Exception {
+        String text = Files.readString(Path.of("README.md"));
+        dueEveryCall(text);
+        runExample(example(text));
+        Check.due("answers are told in the example", answered > 0, true);
         Check.end();
+    }
+
+    private static void dueEveryCall(String text) {
+        for (Method m : SplitKernel.class.getDeclaredMethods()) {
+            if (Modifier.isPublic(m.getModifiers())) {
+                Check.due("README.md names " + m.getName(), text.contains("`" + m.getName() + "("), true);
+            }
+        }
+    }
+
+    private static String example(String text) {
+        int start = text.indexOf("```java\n") + 8;
+        return text.substring(start, text.indexOf("```", start));
+    }
+
+    private static void runExample(String example) throws Exception {
+        Path directory = Files.createTempDirectory("readme");
+        Path source = directory.resolve("Example.java");
+        Files.writeString(source, source(example));
+        int failed = ToolProvider.getSystemJavaCompiler().run(null, null, null,
+                "-cp", System.getProperty("java.class.path"), "-d", directory.toString(), source.toString());
+        Check.due("the example is refused by javac", failed != 0, false);
+        if (failed == 0) {
+            try (URLClassLoader loader = new URLClassLoader(new URL[] {directory.toUri().toURL()})) {
+                loader.loadClass("Example").getMethod("run").invoke(null);
+            }
+        }
+        Files.deleteIfExists(directory.resolve("Example.class"));
+        Files.delete(source);
+        Files.delete(directory);
+    }
+
+    private static String source(String example) {
+        StringBuilder body = new StringBuilder();
+        for (String line : example.split("\n")) {
+            Matcher matcher = ANSWERED.matcher(line);
+            if (matcher.matches()) {
+                String call = matcher.group(1);
+                line = "ReadmeTest.due(\"" + call + "\", " + call + ", " + matcher.group(2) + ");";
+            }
+            body.append(line).append('\n');
+        }
+        return "public final class Example { public static void run() {\n" + body + "} }\n";
+    }
+
+    /** What the example calls where an answer is told. */
+    public static void due(String call, int got, int want) {
+        answered++;
+        Check.due(call, got, want);
     }
 }

@@ -36,6 +36,12 @@ final class Sentence {
         }
     }
 
+    /** The section "The public face". */
+    static String face() {
+        String text = document();
+        return text.substring(text.indexOf("## The public face"), text.indexOf("## Terms"));
+    }
+
     private static String notNamed(String text, boolean[] named) {
         StringBuilder left = new StringBuilder();
         for (int i = 0; i < text.length(); i++) {
